@@ -1,0 +1,87 @@
+import java.util.function.LongSupplier;
+
+/** Counts the answers that are not as due, and ends a test with 1 if there were some. */
+final class Check {
+    private static int asked = 0;
+    private static int wrong = 0;
+
+    private Check() {
+    }
+
+    static void due(String call, long got, long want) {
+        asked++;
+        if (got != want) {
+            wrong++;
+            System.out.println(call + " answered " + got + ", due is " + want);
+        }
+    }
+
+    static void due(String call, boolean got, boolean want) {
+        due(call, got ? 1L : 0L, want ? 1L : 0L);
+    }
+
+    /** Asks for exactly this class: a class below it isn't what the document names. */
+    static void dueThrow(String call, LongSupplier run, Class<? extends RuntimeException> want) {
+        asked++;
+        String got;
+        try {
+            got = "answered " + run.getAsLong();
+        } catch (RuntimeException thrown) {
+            if (thrown.getClass() == want) {
+                return;
+            }
+            got = "threw " + thrown.getClass().getName();
+        }
+        wrong++;
+        System.out.println(call + " " + got + ", due is throws." + want.getSimpleName());
+    }
+
+    /** The states of the first steps, one digit each from step 0 on, as state() tells them. */
+    static void dueStates(String when, EarlyCut x, String want) {
+        dueText(when + ": states", states(x, want.length()), want);
+    }
+
+    /** The causes of the first steps, one sign each from step 0 on, '-' for NONE. */
+    static void dueCauses(String when, EarlyCut x, String want) {
+        StringBuilder got = new StringBuilder();
+        for (int n = 0; n < want.length(); n++) {
+            int cause = x.cause(n);
+            got.append(cause == EarlyCut.NONE ? "-" : String.valueOf(cause));
+        }
+        dueText(when + ": causes", got.toString(), want);
+    }
+
+    /** SAVED, CUT, HALF, BLOCKED, MARKED, as counted() tells them. */
+    static void dueCounts(String when, EarlyCut x, int... want) {
+        for (int what = 0; what < want.length; what++) {
+            due(when + ": counted(" + what + ")", x.counted(what), want[what]);
+        }
+    }
+
+    static void dueText(String what, String got, String want) {
+        asked++;
+        if (!got.equals(want)) {
+            wrong++;
+            System.out.println(what + " are " + got + ", due are " + want);
+        }
+    }
+
+    private static String states(EarlyCut x, int steps) {
+        StringBuilder got = new StringBuilder();
+        for (int n = 0; n < steps; n++) {
+            got.append(x.state(n));
+        }
+        return got.toString();
+    }
+
+    static boolean isWrong() {
+        return wrong != 0;
+    }
+
+    static void end() {
+        System.out.println(asked + " answers, " + wrong + " not as due");
+        if (wrong != 0) {
+            System.exit(1);
+        }
+    }
+}
