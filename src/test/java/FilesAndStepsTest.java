@@ -52,6 +52,8 @@ public final class FilesAndStepsTest {
         Check.due("the 17th file", x.file(5L), -1);
         Check.due("the 18th file", x.file(Long.MIN_VALUE), -1);
         Check.due("set(15) of 16", x.set(15, true, 1L), true);
+        Check.due("set(16) of 16", x.set(16, true, 1L), false);
+        Check.due("touch(16) of 16", x.touch(16), -1);
     }
 
     private static void fileIsThereAtFirst() {
@@ -132,6 +134,8 @@ public final class FilesAndStepsTest {
         }
         Check.due("the 17th step", x.step(0L, 0L), -1);
         Check.due("force(15) of 16", x.force(15), true);
+        Check.due("force(16) of 16", x.force(16), false);
+        Check.due("state(16) of 16", x.state(16), 0);
         Check.due("build(-1) of 16", x.build(-1), 16);
     }
 
@@ -214,6 +218,9 @@ public final class FilesAndStepsTest {
             Check.due("read " + (n + 2), x.readsFile(1, n), true);
         }
         Check.due("build(2)", x.build(2), 2);
+        Check.due("record of the 6th read", x.record(1, 0, 5), 4L);
+        Check.due("record of a 7th read", x.record(1, 0, 6), 0L);
+        Check.due("six reads, nothing changed: build", x.build(2), 0);
         Check.due("a 7th read, of a file", x.readsFile(1, 5), false);
         Check.due("a 7th read, of a part", x.readsPart(1, 0, 0), false);
         Check.due("records after reads that were refused", x.records(1), 1);

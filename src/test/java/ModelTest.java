@@ -217,9 +217,13 @@ public final class ModelTest {
         return values[random.nextInt(values.length)];
     }
 
-    /** A number that is mostly good, at times just outside. */
+    /** A number that is mostly good, at times just outside, at times far. */
     private int near(int bound) {
-        return random.nextInt(bound + 2) - (random.nextInt(20) == 0 ? 1 : 0);
+        int dice = random.nextInt(40);
+        if (dice == 0) {
+            return random.nextInt();
+        }
+        return random.nextInt(bound + 2) - (dice <= 2 ? 1 : 0);
     }
 
     private void change(int c) {
