@@ -1,43 +1,7 @@
 /** Promises 9 to 11: build, state, cause. */
 public final class BuildTest {
     public static void main(String[] args) {
-        bitsThatAreNoSteps();
-        takesWhatIsReadInTheEnd();
-        cleanRedoneRestored();
-        failedAndStill();
-        blocked();
-        blockedLeavesAllAsItIs();
-        blockedByMissingFileToo();
-        causes();
-        causeIsTheFirstDifferenceToTheFirstRecord();
-        forcedBeforeChanged();
-        cutOffByFace();
-        latestBuildAlone();
-        wrongNumbers();
-        Check.end();
-    }
-
-    private static void bitsThatAreNoSteps() {
-        EarlyCut x = new EarlyCut();
-        for (int n = 0; n < 3; n++) {
-            x.step(0L, 0L);
-        }
-        Check.due("build(0)", x.build(0), 0);
-        Check.due("build of bits above", x.build(0xFFFFFFF8), 0);
-        Check.dueStates("bits above", x, "000");
-        Check.due("build(5)", x.build(5), 2);
-        Check.dueStates("bits 0 and 2", x, "202");
-        Check.due("build(-1)", x.build(-1), 1);
-        Check.dueStates("all", x, "121");
-        Check.due("bit 16 isn't step 0", x.build(1 << 16), 0);
-        Check.dueStates("bit 16", x, "000");
-        EarlyCut y = new EarlyCut();
-        for (int n = 0; n < 16; n++) {
-            y.step(0L, 0L);
-        }
-        Check.due("build of step 15", y.build(1 << 15), 1);
-        Check.due("state(15)", y.state(15), 2);
-        Check.due("state(14)", y.state(14), 0);
+        Check.runAll(BuildTest.class);
     }
 
     private static void takesWhatIsReadInTheEnd() {
@@ -54,65 +18,52 @@ public final class BuildTest {
         Check.dueStates("its middle", x, "1010101000000000");
     }
 
-    private static EarlyCut oneFileOneStep(long mask, long modulus) {
-        EarlyCut x = new EarlyCut();
-        x.file(1L);
-        x.step(mask, modulus);
-        x.readsFile(0, 0);
-        return x;
-    }
-
-    private static int buildWith(EarlyCut x, long content) {
-        x.set(0, true, content);
-        return x.build(-1);
-    }
-
     private static void cleanRedoneRestored() {
-        EarlyCut x = oneFileOneStep(-1L, 0L);
-        Check.due("first", buildWith(x, 1L), 1);
+        EarlyCut x = Setup.oneFileOneStep(-1L, 0L);
+        Check.due("first", Setup.buildWith(x, 1L), 1);
         Check.dueStates("first", x, "2");
-        Check.due("second", buildWith(x, 2L), 1);
-        Check.due("third", buildWith(x, 3L), 1);
-        Check.due("back to the first", buildWith(x, 1L), 0);
+        Check.due("second", Setup.buildWith(x, 2L), 1);
+        Check.due("third", Setup.buildWith(x, 3L), 1);
+        Check.due("back to the first", Setup.buildWith(x, 1L), 0);
         Check.dueStates("back to the first", x, "6");
         Check.dueCauses("back to the first", x, "-");
-        Check.due("stays", buildWith(x, 1L), 0);
+        Check.due("stays", Setup.buildWith(x, 1L), 0);
         Check.dueStates("stays", x, "1");
-        Check.due("a fourth", buildWith(x, 4L), 1);
-        Check.due("the third, used before", buildWith(x, 3L), 0);
+        Check.due("a fourth", Setup.buildWith(x, 4L), 1);
+        Check.due("the third, used before", Setup.buildWith(x, 3L), 0);
         Check.dueStates("the third", x, "6");
-        Check.due("the second went", buildWith(x, 2L), 1);
+        Check.due("the second went", Setup.buildWith(x, 2L), 1);
         Check.dueStates("the second went", x, "2");
-        Check.due("so the first went too", buildWith(x, 1L), 1);
+        Check.due("so the first went too", Setup.buildWith(x, 1L), 1);
     }
 
     private static void failedAndStill() {
-        EarlyCut x = oneFileOneStep(-1L, 4L);
-        Check.due("527 + 1 is a multiple of 4", buildWith(x, 1L), 1);
+        EarlyCut x = Setup.oneFileOneStep(-1L, 4L);
+        Check.due("527 + 1 is a multiple of 4", Setup.buildWith(x, 1L), 1);
         Check.dueStates("a multiple", x, "3");
         Check.dueCauses("a multiple", x, "0");
         Check.due("a failure stays", x.build(1), 0);
         Check.dueStates("a failure stays", x, "4");
         Check.dueCauses("a failure stays", x, "-");
-        Check.due("no multiple", buildWith(x, 2L), 1);
+        Check.due("no multiple", Setup.buildWith(x, 2L), 1);
         Check.dueStates("no multiple", x, "2");
-        Check.due("back", buildWith(x, 1L), 0);
+        Check.due("back", Setup.buildWith(x, 1L), 0);
         Check.dueStates("back: still, by another record", x, "4");
-        Check.due("-531 is none", buildWith(x, -1058L), 1);
+        Check.due("-531 is none", Setup.buildWith(x, -1058L), 1);
         Check.dueStates("-531", x, "2");
-        Check.due("-528 is one", buildWith(x, -1055L), 1);
+        Check.due("-528 is one", Setup.buildWith(x, -1055L), 1);
         Check.dueStates("-528", x, "3");
-        Check.due("0 is one", buildWith(x, -527L), 1);
+        Check.due("0 is one", Setup.buildWith(x, -527L), 1);
         Check.dueStates("0", x, "3");
         Check.due("forced failure: force", x.force(0), true);
         Check.due("forced failure", x.build(1), 1);
         Check.dueStates("forced failure", x, "3");
         Check.dueCauses("forced failure", x, "1");
 
-        EarlyCut y = oneFileOneStep(-1L, Long.MAX_VALUE);
-        Check.due("the least body and the greatest modulus", buildWith(y, Long.MIN_VALUE - 527L), 1);
+        EarlyCut y = Setup.oneFileOneStep(-1L, Long.MAX_VALUE);
+        Check.due("the least body and the greatest modulus", Setup.buildWith(y, Long.MIN_VALUE - 527L), 1);
         Check.dueStates("the least body", y, "2");
-        Check.due("minus the modulus", buildWith(y, -Long.MAX_VALUE - 527L), 1);
+        Check.due("minus the modulus", Setup.buildWith(y, -Long.MAX_VALUE - 527L), 1);
         Check.dueStates("minus the modulus", y, "3");
     }
 
@@ -232,13 +183,13 @@ public final class BuildTest {
     }
 
     private static void forcedBeforeChanged() {
-        EarlyCut x = oneFileOneStep(-1L, 0L);
-        buildWith(x, 1L);
+        EarlyCut x = Setup.oneFileOneStep(-1L, 0L);
+        Setup.buildWith(x, 1L);
         x.force(0);
-        Check.due("forced and changed", buildWith(x, 2L), 1);
+        Check.due("forced and changed", Setup.buildWith(x, 2L), 1);
         Check.dueCauses("forced and changed", x, "1");
         x.force(0);
-        Check.due("forced with a record to restore", buildWith(x, 1L), 1);
+        Check.due("forced with a record to restore", Setup.buildWith(x, 1L), 1);
         Check.dueStates("forced with a record to restore", x, "2");
         Check.dueCauses("forced with a record to restore", x, "1");
         Check.due("in place of that record", x.records(0), 2);
@@ -265,7 +216,7 @@ public final class BuildTest {
     }
 
     private static void latestBuildAlone() {
-        EarlyCut x = oneFileOneStep(-1L, 0L);
+        EarlyCut x = Setup.oneFileOneStep(-1L, 0L);
         x.step(0L, 0L);
         x.build(3);
         Check.dueStates("both", x, "22");
@@ -277,14 +228,5 @@ public final class BuildTest {
         x.build(0);
         Check.dueStates("none", x, "000");
         Check.dueCauses("none", x, "---");
-    }
-
-    private static void wrongNumbers() {
-        EarlyCut x = oneFileOneStep(-1L, 0L);
-        x.build(1);
-        for (int number : new int[] {Integer.MIN_VALUE, -1, 1, 15, 16, 32, Integer.MAX_VALUE}) {
-            Check.due("state(" + number + ")", x.state(number), 0);
-            Check.due("cause(" + number + ")", x.cause(number), -1);
-        }
     }
 }

@@ -1,18 +1,67 @@
+import java.lang.reflect.InvocationTargetException;
+import java.lang.reflect.Method;
+import java.lang.reflect.Modifier;
+import java.util.Arrays;
+import java.util.Comparator;
 import java.util.function.LongSupplier;
 
 /** Counts the answers that are not as due, and ends a test with 1 if there were some. */
 final class Check {
     private static int asked = 0;
     private static int wrong = 0;
+    private static String running = "";
 
     private Check() {
+    }
+
+    /**
+     * Runs each static method of the class that takes and answers nothing, by name, and ends. A test can't be
+     * forgotten so, and one that asks nothing is wrong.
+     */
+    static void runAll(Class<?> tests) {
+        Method[] methods = tests.getDeclaredMethods();
+        Arrays.sort(methods, Comparator.comparing(Method::getName));
+        int ran = 0;
+        for (Method m : methods) {
+            if (Modifier.isStatic(m.getModifiers()) && m.getParameterCount() == 0
+                    && m.getReturnType() == void.class && !m.isSynthetic()) {
+                run(m);
+                ran++;
+            }
+        }
+        if (ran == 0) {
+            report(tests.getName() + " has no tests");
+        }
+        System.out.print(ran + " tests, ");
+        end();
+    }
+
+    private static void run(Method test) {
+        running = test.getName() + ": ";
+        int askedBefore = asked;
+        try {
+            test.setAccessible(true);
+            test.invoke(null);
+        } catch (InvocationTargetException e) {
+            report("threw " + e.getCause());
+        } catch (IllegalAccessException e) {
+            report("can't be run");
+        }
+        if (asked == askedBefore) {
+            report("asked nothing");
+        }
+        running = "";
+    }
+
+    private static void report(String what) {
+        wrong++;
+        System.out.println(running + what);
     }
 
     static void due(String call, long got, long want) {
         asked++;
         if (got != want) {
-            wrong++;
-            System.out.println(call + " answered " + got + ", due is " + want);
+            report(call + " answered " + got + ", due is " + want);
         }
     }
 
@@ -32,8 +81,7 @@ final class Check {
             }
             got = "threw " + thrown.getClass().getName();
         }
-        wrong++;
-        System.out.println(call + " " + got + ", due is throws." + want.getSimpleName());
+        report(call + " " + got + ", due is throws." + want.getSimpleName());
     }
 
     /** The states of the first steps, one digit each from step 0 on, as state() tells them. */
@@ -61,8 +109,7 @@ final class Check {
     static void dueText(String what, String got, String want) {
         asked++;
         if (!got.equals(want)) {
-            wrong++;
-            System.out.println(what + " are " + got + ", due are " + want);
+            report(what + " are " + got + ", due are " + want);
         }
     }
 

@@ -1,30 +1,7 @@
 /** Promises 12, 17 and 18: counted, total, share. */
 public final class CountsTest {
     public static void main(String[] args) {
-        wrongWhat();
-        savedByCut();
-        savedByRestoring();
-        savedByFailuresThatStay();
-        cutByForce();
-        cutByOtherReads();
-        half();
-        nothingToCompareWith();
-        markedByPartsOfMarkedOnes();
-        aChangedPartAloneMarksNobody();
-        countsAreOfTheLatestBuild();
-        total();
-        share();
-        Check.end();
-    }
-
-    private static void wrongWhat() {
-        EarlyCut x = new EarlyCut();
-        for (int what : new int[] {Integer.MIN_VALUE, -1, 5, 6, Integer.MAX_VALUE}) {
-            Check.due("counted(" + what + ")", x.counted(what), -1);
-        }
-        for (int cause : new int[] {Integer.MIN_VALUE, -1, 4, 5, Integer.MAX_VALUE}) {
-            Check.due("total(" + cause + ")", x.total(cause), -1);
-        }
+        Check.runAll(CountsTest.class);
     }
 
     /** Step 0 reads file 0; step 1 its face; step 2 a part of step 1. */

@@ -4,44 +4,7 @@ public final class FilesAndStepsTest {
         Integer.MIN_VALUE, -2, -1, 16, 17, 31, 32, 64, Integer.MAX_VALUE};
 
     public static void main(String[] args) {
-        newObject();
-        file();
-        fileIsThereAtFirst();
-        set();
-        setIsSeenByBuilds();
-        touch();
-        step();
-        modulusAndMaskAreUsed();
-        readsFile();
-        readsPart();
-        readsAreAtMostSix();
-        readsDropTheRecordsOfTheirStepAlone();
-        force();
-        forceLastsTillDone();
-        objectsAreApart();
-        Check.end();
-    }
-
-    private static void newObject() {
-        EarlyCut x = new EarlyCut();
-        Check.due("NONE", EarlyCut.NONE, -1);
-        Check.due("new: build(-1)", x.build(-1), 0);
-        Check.dueStates("new", x, "0000000000000000");
-        Check.dueCauses("new", x, "----------------");
-        Check.dueCounts("new", x, 0, 0, 0, 0, 0);
-        Check.due("new: set(0)", x.set(0, true, 1L), false);
-        Check.due("new: touch(0)", x.touch(0), -1);
-        Check.due("new: readsFile(0, 0)", x.readsFile(0, 0), false);
-        Check.due("new: readsPart(1, 0, 0)", x.readsPart(1, 0, 0), false);
-        Check.due("new: force(0)", x.force(0), false);
-        Check.due("new: records(0)", x.records(0), 0);
-        Check.due("new: record(0, 0, 0)", x.record(0, 0, 0), 0);
-        Check.due("new: failed(0, 0)", x.failed(0, 0), -1);
-        for (int cause = 0; cause < 4; cause++) {
-            Check.due("new: total(" + cause + ")", x.total(cause), 0);
-        }
-        Check.dueThrow("new: share()", () -> x.share(), ArithmeticException.class);
-        Check.dueThrow("new: output(0, 0)", () -> x.output(0, 0), IllegalArgumentException.class);
+        Check.runAll(FilesAndStepsTest.class);
     }
 
     private static void file() {
@@ -300,16 +263,5 @@ public final class FilesAndStepsTest {
         Check.due("new and forced: build", y.build(1), 1);
         Check.dueCauses("new and forced", y, "0");
         Check.due("done is done: build", y.build(1), 0);
-    }
-
-    private static void objectsAreApart() {
-        EarlyCut x = new EarlyCut();
-        EarlyCut y = new EarlyCut();
-        x.file(1L);
-        x.step(0L, 0L);
-        x.build(1);
-        Check.due("another object's file", y.touch(0), -1);
-        Check.due("another object's step", y.force(0), false);
-        Check.due("another object's total", y.total(0), 0);
     }
 }

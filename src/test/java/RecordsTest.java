@@ -1,33 +1,11 @@
 /** Promises 13 to 16: output, records, record, failed. */
 public final class RecordsTest {
     public static void main(String[] args) {
-        output();
-        outputIsOfTheFirstRecord();
-        records();
-        order();
-        forcedTakesTheSamePlace();
-        whatWasRead();
-        recordWithoutSuch();
-        failed();
-        failedByTheFirstMissing();
-        Check.end();
-    }
-
-    private static EarlyCut oneFileOneStep(long mask, long modulus) {
-        EarlyCut x = new EarlyCut();
-        x.file(1L);
-        x.step(mask, modulus);
-        x.readsFile(0, 0);
-        return x;
-    }
-
-    private static void buildWith(EarlyCut x, long content) {
-        x.set(0, true, content);
-        x.build(-1);
+        Check.runAll(RecordsTest.class);
     }
 
     private static void output() {
-        EarlyCut x = oneFileOneStep(0xF0L, 4L);
+        EarlyCut x = Setup.oneFileOneStep(0xF0L, 4L);
         for (int number : new int[] {Integer.MIN_VALUE, -1, 1, 15, 16, Integer.MAX_VALUE}) {
             Check.dueThrow("output(" + number + ", 0)", () -> x.output(number, 0), IllegalArgumentException.class);
         }
@@ -36,10 +14,10 @@ public final class RecordsTest {
         }
         Check.dueThrow("without a record", () -> x.output(0, 0), IllegalStateException.class);
         Check.dueThrow("without a record", () -> x.output(0, 1), IllegalStateException.class);
-        buildWith(x, 1L);
+        Setup.buildWith(x, 1L);
         Check.dueThrow("failed", () -> x.output(0, 0), IllegalStateException.class);
         Check.dueThrow("failed, no such part", () -> x.output(0, 2), IllegalArgumentException.class);
-        buildWith(x, 2L);
+        Setup.buildWith(x, 2L);
         Check.due("face", x.output(0, 0), 529L & 0xF0L);
         Check.due("body", x.output(0, 1), 529L);
         Check.dueThrow("no such part", () -> x.output(0, 2), IllegalArgumentException.class);
@@ -51,27 +29,27 @@ public final class RecordsTest {
     }
 
     private static void outputIsOfTheFirstRecord() {
-        EarlyCut x = oneFileOneStep(-1L, 4L);
-        buildWith(x, 2L);
-        buildWith(x, 3L);
+        EarlyCut x = Setup.oneFileOneStep(-1L, 4L);
+        Setup.buildWith(x, 2L);
+        Setup.buildWith(x, 3L);
         Check.due("the second", x.output(0, 1), 530L);
-        buildWith(x, 2L);
+        Setup.buildWith(x, 2L);
         Check.due("the first, restored", x.output(0, 1), 529L);
-        buildWith(x, 1L);
-        buildWith(x, 2L);
+        Setup.buildWith(x, 1L);
+        Setup.buildWith(x, 2L);
         Check.due("restored after a failure", x.output(0, 1), 529L);
-        buildWith(x, 1L);
+        Setup.buildWith(x, 1L);
         Check.dueThrow("a failure restored", () -> x.output(0, 1), IllegalStateException.class);
     }
 
     private static void records() {
-        EarlyCut x = oneFileOneStep(-1L, 0L);
+        EarlyCut x = Setup.oneFileOneStep(-1L, 0L);
         Check.due("none", x.records(0), 0);
         for (int n = 1; n <= 5; n++) {
-            buildWith(x, n);
+            Setup.buildWith(x, n);
             Check.due("after " + n, x.records(0), Math.min(n, 3));
         }
-        buildWith(x, 4L);
+        Setup.buildWith(x, 4L);
         Check.due("restored", x.records(0), 3);
         for (int number : new int[] {Integer.MIN_VALUE, -1, 1, 15, 16, Integer.MAX_VALUE}) {
             Check.due("records(" + number + ")", x.records(number), 0);
@@ -89,40 +67,40 @@ public final class RecordsTest {
     }
 
     private static void order() {
-        EarlyCut x = oneFileOneStep(-1L, 4L);
-        buildWith(x, 1L);
-        buildWith(x, 2L);
+        EarlyCut x = Setup.oneFileOneStep(-1L, 4L);
+        Setup.buildWith(x, 1L);
+        Setup.buildWith(x, 2L);
         dueOrder("two", x, 2L, 1L);
-        buildWith(x, 3L);
+        Setup.buildWith(x, 3L);
         dueOrder("three", x, 3L, 2L, 1L);
-        buildWith(x, 3L);
+        Setup.buildWith(x, 3L);
         dueOrder("clean", x, 3L, 2L, 1L);
-        buildWith(x, 2L);
+        Setup.buildWith(x, 2L);
         dueOrder("the middle restored", x, 2L, 3L, 1L);
-        buildWith(x, 1L);
+        Setup.buildWith(x, 1L);
         dueOrder("the last, a failure", x, 1L, 2L, 3L);
-        buildWith(x, 4L);
+        Setup.buildWith(x, 4L);
         dueOrder("a fourth", x, 4L, 1L, 2L);
         Check.due("no fourth one", x.record(0, 3, 0), 0L);
     }
 
     private static void forcedTakesTheSamePlace() {
-        EarlyCut x = oneFileOneStep(-1L, 0L);
-        buildWith(x, 1L);
-        buildWith(x, 2L);
-        buildWith(x, 3L);
+        EarlyCut x = Setup.oneFileOneStep(-1L, 0L);
+        Setup.buildWith(x, 1L);
+        Setup.buildWith(x, 2L);
+        Setup.buildWith(x, 3L);
         x.force(0);
-        buildWith(x, 3L);
+        Setup.buildWith(x, 3L);
         dueOrder("the first forced", x, 3L, 2L, 1L);
         x.force(0);
-        buildWith(x, 1L);
+        Setup.buildWith(x, 1L);
         dueOrder("the last forced", x, 1L, 3L, 2L);
         Check.due("its output", x.output(0, 1), 528L);
         x.force(0);
-        buildWith(x, 3L);
+        Setup.buildWith(x, 3L);
         dueOrder("the middle forced", x, 3L, 1L, 2L);
         x.force(0);
-        buildWith(x, 4L);
+        Setup.buildWith(x, 4L);
         dueOrder("a fourth forced", x, 4L, 3L, 1L);
     }
 
@@ -149,24 +127,12 @@ public final class RecordsTest {
         Check.due("as it was before", x.record(1, 1, 0), 8L);
     }
 
-    private static void recordWithoutSuch() {
-        EarlyCut x = oneFileOneStep(-1L, 0L);
-        Check.due("before a build", x.record(0, 0, 0), 0L);
-        buildWith(x, 5L);
-        Check.due("such a one", x.record(0, 0, 0), 5L);
-        for (int number : new int[] {Integer.MIN_VALUE, -1, 1, 2, 3, 4, 6, 16, Integer.MAX_VALUE}) {
-            Check.due("record(" + number + ", 0, 0)", x.record(number, 0, 0), 0L);
-            Check.due("record(0, " + number + ", 0)", x.record(0, number, 0), 0L);
-            Check.due("record(0, 0, " + number + ")", x.record(0, 0, number), 0L);
-        }
-    }
-
     private static void failed() {
-        EarlyCut x = oneFileOneStep(-1L, 4L);
+        EarlyCut x = Setup.oneFileOneStep(-1L, 4L);
         Check.due("without a record", x.failed(0, 0), -1);
-        buildWith(x, 1L);
+        Setup.buildWith(x, 1L);
         Check.due("by itself", x.failed(0, 0), 6);
-        buildWith(x, 2L);
+        Setup.buildWith(x, 2L);
         Check.due("an output", x.failed(0, 0), -1);
         Check.due("by itself, then", x.failed(0, 1), 6);
         x.set(0, false, 1L);
