@@ -3,7 +3,6 @@ import java.lang.reflect.Field;
 import java.lang.reflect.Method;
 import java.lang.reflect.Modifier;
 import java.util.Arrays;
-import java.util.HashSet;
 import java.util.Set;
 import java.util.TreeSet;
 
@@ -20,21 +19,22 @@ public final class FaceTest {
         "public int failed(int, int)",
         "public int file(long)",
         "public int records(int)",
-        "public int share()",
+        "public int share() throws ArithmeticException",
         "public int state(int)",
         "public int step(long, long)",
         "public int total(int)",
         "public int touch(int)",
-        "public long output(int, int)",
+        "public long output(int, int) throws IllegalArgumentException, IllegalStateException",
         "public long record(int, int, int)"};
 
     public static void main(String[] args) {
         Class<EarlyCut> face = EarlyCut.class;
         Check.due("public and final", Modifier.isPublic(face.getModifiers()) && Modifier.isFinal(face.getModifiers()), true);
+        Check.dueText("package and what is above it", face.getName() + " " + face.getSuperclass().getName()
+            + " " + face.getInterfaces().length, "EarlyCut java.lang.Object 0");
         Check.dueText("methods", seenMethods(face).toString(), new TreeSet<>(Arrays.asList(METHODS)).toString());
         Check.dueText("fields", seenFields(face).toString(), "[public static final int NONE]");
         Check.dueText("constructors", constructors(face).toString(), "[public EarlyCut()]");
-        hiddenMethodsBearOtherNames(face);
         Check.end();
     }
 
@@ -42,12 +42,24 @@ public final class FaceTest {
         Set<String> seen = new TreeSet<>();
         for (Method m : face.getDeclaredMethods()) {
             if (!Modifier.isPrivate(m.getModifiers())) {
-                String parameters = Arrays.toString(m.getParameterTypes());
                 seen.add(Modifier.toString(m.getModifiers()) + " " + m.getReturnType() + " " + m.getName()
-                    + "(" + parameters.substring(1, parameters.length() - 1) + ")");
+                    + "(" + names(m.getParameterTypes()) + ")" + thrownBy(m));
             }
         }
         return seen;
+    }
+
+    private static String thrownBy(Method m) {
+        Class<?>[] thrown = m.getExceptionTypes();
+        return thrown.length == 0 ? "" : " throws " + names(thrown);
+    }
+
+    private static String names(Class<?>[] classes) {
+        StringBuilder all = new StringBuilder();
+        for (Class<?> c : classes) {
+            all.append(all.length() == 0 ? "" : ", ").append(c.getSimpleName());
+        }
+        return all.toString();
     }
 
     private static Set<String> seenFields(Class<?> face) {
@@ -66,20 +78,5 @@ public final class FaceTest {
             seen.add(c.toString());
         }
         return seen;
-    }
-
-    private static void hiddenMethodsBearOtherNames(Class<?> face) {
-        Set<String> names = new HashSet<>();
-        for (Method m : face.getMethods()) {
-            names.add(m.getName());
-        }
-        for (Method m : face.getDeclaredMethods()) {
-            if (Modifier.isPrivate(m.getModifiers())) {
-                Check.due("a public name for a private " + m.getName(), names.contains(m.getName()), false);
-            }
-        }
-        for (Class<?> inside : face.getDeclaredClasses()) {
-            Check.due(inside.getName() + " is static", Modifier.isStatic(inside.getModifiers()), true);
-        }
     }
 }
